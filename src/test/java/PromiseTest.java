@@ -248,6 +248,19 @@ public final class PromiseTest {
         shipIs("s5,9,1;a1;a1;a1;a1;a1;a1;", 6, 0);
         shipIs("s5,9,1;a1;a1;" + (char) 233, -1000113, 1);
         shipIs("s5,9,1;a1;a1;" + (char) 0, -1000113, 1);
+        StormLots x = Check.told("s5,9,1;a1;a1;a1;a1;a1;a1;");
+        x.cast(3);
+        x.cargo();
+        x.throwOver(0, 1);
+        due("in place of it", told(x, "s9,3,1;g7;r2;"), 2);
+        due("aboard", x.count(2), 2);
+        due("draw", x.count(3), 1);
+        due("hour", x.sea(0), 0);
+        due("sinks", x.sea(1), 3);
+        due("storms", x.sea(2), 1);
+        due("lots", x.sea(3), 0);
+        due("likelihood", x.likelihood(0), 7);
+        due("no longer", x.likelihood(2), BAD);
     }
 
     private static void faults() {
@@ -648,6 +661,10 @@ public final class PromiseTest {
         savedIs(x, 1, 1, 1, 4);
         x = Check.told("s9,9,0;g1;g1;");
         savedIs(x, 2, 1, 1, 2);
+        x = Check.told("s0,9,10;a1;a3;a2;");
+        // 1/2 + 1/2 * 1/2; 1/2 + 1/2 * (1/2 + 1/2 * (2/3 + 1/3 * 1/2))
+        savedIs(x, 1, 3, 4, 3);
+        savedIs(x, 2, 23, 24, 3);
     }
 
     private static void sures() {
@@ -776,6 +793,9 @@ public final class PromiseTest {
         // a lot that is not true names 0 by 28247524, even: 0 is thrown, then 1
         x = Check.told("s9,20,0;a1;a1;");
         stormIs(x, 60, 1, 1, 3, 1);
+        // 7, the rest by 8, falls to 4; a lot that is not true names the one at place 4, the rest of 28247524 by 5
+        x = Check.told("s9,2,0;a1;a1;a1;a1;a4;");
+        stormIs(x, 80, 1, 0, 2, 1);
         x = Check.told("s9,9,0;g1;g1;");
         stormIs(x, 100, 1, 1, 2, 1);
         x.hour();
@@ -854,6 +874,10 @@ public final class PromiseTest {
         x.hour();
         due("undo", x.undo(), 0);
         due("hour", x.sea(0), 1);
+        x.hour();
+        due("restore", x.restore(1), 1);
+        due("hour", x.sea(0), 1);
+        due("none to undo", x.undo(), STATE);
     }
 
     private static void kinds() {
@@ -942,6 +966,9 @@ public final class PromiseTest {
         }
         x.drop(3);
         due("rows", x.count(0), 1);
+        x.row(0, 1, 1);
+        x.row(7, 1, 1);
+        due("rows", x.count(0), 3);
         due("what -1", x.count(-1), BAD);
         due("what 6", x.count(6), BAD);
     }
