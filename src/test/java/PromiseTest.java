@@ -418,6 +418,9 @@ public final class PromiseTest {
         x.cast(0);
         due("by itself", x.throwOver(1, 1), 1);
         due("the one is aboard", x.belief(0, 0), 1);
+        x = Check.told("s6,9,10;a1;a2;");
+        due("by 20 and by 10", x.throwOver(0, 1), 1);
+        due("as likely as not", x.belief(0, 1), 2);
         x = Check.told("s10,1,1;a3;a5;");
         due("in the last hour", x.throwOver(1, 0), 1);
         due("sunk", x.sea(2), 2);
