@@ -23,6 +23,7 @@ public final class ForetoldEdgeTest {
         likeliestIsTheFirst();
         likeliestIsAboard();
         likeliestOfNobody();
+        namedByTruth();
         namedByOneAlone();
         namedWhoDoesNotDraw();
         namedWhoCannotBe();
@@ -153,6 +154,25 @@ public final class ForetoldEdgeTest {
         due("one", x.likeliest(), 0);
         x.throwOver(0, 1);
         due("nobody", x.likeliest(), NONE);
+    }
+
+    private static void namedByTruth() {
+        says("A LOT names one of those who DRAW: by TRUTH of 10 of the one that one; else each of them alike, that one, too");
+        StormLots x = Check.told("s0,9,4;a9;a1;g5;");
+        namedIs(x, 0, 1, 2);
+        namedIs(x, 1, 1, 2);
+        x = Check.told("s10,9,4;a9;a1;");
+        namedIs(x, 0, 9, 10);
+        namedIs(x, 1, 1, 10);
+        x = Check.told("s10,9,4;a9;a1;w5;");
+        // the other half of all falls to both alike
+        namedIs(x, 0, 7, 10);
+        namedIs(x, 1, 3, 10);
+        x = Check.told("s1,9,4;r1;a1;o2;");
+        // TRUTH 0, 1, 0: of 120 for 0: 10, 9, 20; for 1: 10, 12, 20
+        namedIs(x, 0, 13, 40);
+        namedIs(x, 1, 7, 20);
+        namedIs(x, 2, 13, 40);
     }
 
     private static void namedByOneAlone() {
