@@ -32,6 +32,7 @@ public final class ForetoldEdgeTest {
         tellsOnlyWhoCanBeNamed();
         tellsByTies();
         tellsNothing();
+        tellsWhateverWasDone();
         savedInOneHourAtTheEnd();
         savedByCasting();
         savedWhenNobodyDraws();
@@ -270,6 +271,22 @@ public final class ForetoldEdgeTest {
         due("lots that are never true", Check.told("s0,9,4;a1;a9;g5;").tells(), 0);
         due("one draws", Check.told("s10,9,4;a1;g9;").tells(), 0);
         due("one who does not draw stays it", Check.told("s10,9,4;a1;a1;w9;").tells(), 0);
+    }
+
+    private static void tellsWhateverWasDone() {
+        says("tells: STATE: no SHIP, nobody DRAWS (and nothing else)");
+        StormLots x = Check.told("s5,9,4;a1;a1;");
+        for (int n = 0; n < 4; n++) {
+            x.cast(n % 2);
+        }
+        due("4 were cast", x.tells(), 2);
+        x = Check.told("s5,1,4;a1;a3;");
+        x.hour();
+        due("she has sunk", x.tells(), 1);
+        x = Check.told("s5,9,4;a1;a3;a1;");
+        x.throwOver(2, 1);
+        // 4 and 12 aboard: a lot for 0 makes both 60
+        due("it lies still", x.tells(), 1);
     }
 
     private static void savedInOneHourAtTheEnd() {

@@ -35,6 +35,7 @@ public final class VoyageEdgeTest {
         lotsThatAreTrue();
         lotsIfTheOneDoesNotDraw();
         windByADraw();
+        windThatNeverDrops();
         sinksAsTold();
         fromNowOn();
         seeds();
@@ -320,6 +321,14 @@ public final class VoyageEdgeTest {
         stormIs(Check.told("s10,3,13;a1;a1;"), 51, 1, 0, 2, 1);
         stormIs(Check.told("s10,1,14;a1;a1;"), 51, 1, 0, 1, 1);
         stormIs(Check.told("s10,1,13;a1;a1;"), 51, 1, 0, 1, 0);
+    }
+
+    private static void windThatNeverDrops() {
+        says("else, by a draw more, if its rest by 20 is less than DROP: a draw is taken by DROP 0, too");
+        // draws behind 11: 184877 (1 is it), 959744092 (names it), 669281627 (the wind), 96962003 (names it: 9 of 10)
+        stormIs(Check.told("s5,20,0;a1;a1;"), 80, 11, 0, 3, 1);
+        // then 1847779995 (the wind), 877356698 (not true; at place 1, it)
+        stormIs(Check.told("s5,20,0;a1;a1;"), 91, 11, 0, 4, 1);
     }
 
     private static void sinksAsTold() {
